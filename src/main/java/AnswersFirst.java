@@ -17,6 +17,7 @@ public final class AnswersFirst {
     private static final int TOWNS = 6;
     private static final int MOST_TEXTS = 4;
     private static final int MOST_BYTES = 300;
+    private static final int GREATEST_NUMBER = 32767;
     private static final int MOST_CLAUSES = 24;
     private static final int CLAUSE_PARTS = 5;
     private static final int MOST_QUESTIONS = 12;
@@ -154,10 +155,10 @@ public final class AnswersFirst {
     private final Row saved = new Row();
 
     public AnswersFirst() {
+        // a row of zeros is the image of a new object, so that nothing need be saved here
         for (int i = 0; i < MOST_TEXTS; i++) {
             scripts[i] = new Script();
         }
-        saveAll();
     }
 
     // ---- the world
@@ -246,6 +247,9 @@ public final class AnswersFirst {
             return NOT_TOLD;
         }
         for (int i = 0; i < script.clauses; i++) {
+            if (script.sortOf(i) == TOKEN_ASKS || script.sortOf(i) == TOKEN_MORNING) {
+                takeStock();
+            }
             if (!perform(script, i)) {
                 return i;
             }
@@ -273,9 +277,9 @@ public final class AnswersFirst {
             case TOKEN_ANSWER:
                 return answer(a);
             case TOKEN_ASKS:
-                return ask(a, b) != NONE;
+                return askNow(a, b) != NONE;
             default:
-                return morning(NONE) >= 0;
+                return school.holdMorning(NONE, questions) >= 0;
         }
     }
 
@@ -313,6 +317,7 @@ public final class AnswersFirst {
         if (!isQuestion(one) || !isQuestion(other)) {
             return NONE;
         }
+        takeStock();
         return questions.areAlike(one, other) ? 1 : 0;
     }
 
@@ -320,6 +325,7 @@ public final class AnswersFirst {
         if (!isQuestion(one) || !isQuestion(other)) {
             return NONE;
         }
+        takeStock();
         return !questions.areAlike(one, other) && questions.areAlikeByAll(one, other) ? 1 : 0;
     }
 
@@ -333,7 +339,7 @@ public final class AnswersFirst {
     // ---- the school
 
     public int pupil(int age, int words, int number, int depth, int leaves) {
-        boolean told = within(age, 1, 99) && within(words, 0, 32767) && within(number, 0, 99)
+        boolean told = within(age, 1, 99) && within(words, 0, GREATEST_NUMBER) && within(number, 0, 99)
                 && within(depth, 0, MOST_OPEN) && within(leaves, 1, MOST_LEAVES);
         return told ? school.addPupil(age, words, number, depth, leaves) : NONE;
     }
@@ -355,7 +361,12 @@ public final class AnswersFirst {
     }
 
     public int ask(int pupil, int question) {
-        if (why(pupil, question) != 0) {
+        takeStock();
+        return askNow(pupil, question);
+    }
+
+    private int askNow(int pupil, int question) {
+        if (!isPupil(pupil) || !isQuestion(question) || school.hindrance(pupil, question, questions) != 0) {
             return NONE;
         }
         school.addStep(pupil, question);
@@ -363,19 +374,38 @@ public final class AnswersFirst {
     }
 
     public int why(int pupil, int question) {
-        return isPupil(pupil) && isQuestion(question) ? school.hindrance(pupil, question, questions, world) : NONE;
+        if (!isPupil(pupil) || !isQuestion(question)) {
+            return NONE;
+        }
+        takeStock();
+        return school.hindrance(pupil, question, questions);
     }
 
     public int barred(int question) {
-        return isQuestion(question) ? school.barring(question, questions) : NONE;
+        if (!isQuestion(question)) {
+            return NONE;
+        }
+        takeStock();
+        return school.barring(question, questions);
     }
 
     public int morning(int seed) {
-        return within(seed, NONE, 9999) ? school.holdMorning(seed, questions, world) : NOT_TOLD;
+        if (!within(seed, NONE, 9999)) {
+            return NOT_TOLD;
+        }
+        takeStock();
+        return school.holdMorning(seed, questions);
     }
 
     public int stuck() {
-        return school.firstPassedOver(questions, world);
+        takeStock();
+        return school.firstPassedOver(questions);
+    }
+
+    /** Says and works out all questions as things now are: what the school looks at rests on it. */
+    private void takeStock() {
+        questions.sayAll();
+        questions.workAll(world);
     }
 
     public int undo() {
@@ -397,7 +427,11 @@ public final class AnswersFirst {
     }
 
     public int left(int pupil) {
-        return isPupil(pupil) ? school.shortestNow(pupil, questions, world) : NONE;
+        if (!isPupil(pupil)) {
+            return NONE;
+        }
+        takeStock();
+        return school.shortestNow(pupil, questions);
     }
 
     // ---- what could be, from nobody having asked
@@ -406,7 +440,8 @@ public final class AnswersFirst {
         if (!within(i, NONE, school.pupils - 1)) {
             return NOT_TOLD;
         }
-        plans.look(school, questions, world);
+        takeStock();
+        plans.look(school, questions);
         if (i == NONE) {
             return plans.mostWhoCan();
         }
@@ -414,7 +449,8 @@ public final class AnswersFirst {
     }
 
     public int shut() {
-        plans.look(school, questions, world);
+        takeStock();
+        plans.look(school, questions);
         return plans.fewestToShut();
     }
 
@@ -422,7 +458,8 @@ public final class AnswersFirst {
         if (!isPupil(begins) || !isPupil(other) || begins == other) {
             return NOT_TOLD;
         }
-        plans.look(school, questions, world);
+        takeStock();
+        plans.look(school, questions);
         int question = plans.winningStart(begins, other);
         if (first) {
             return question;
@@ -516,10 +553,12 @@ public final class AnswersFirst {
     }
 
     public int lies() {
-        return hearsay.liesIn(questions, world);
+        takeStock();
+        return hearsay.liesIn(questions);
     }
 
     public int clash() {
+        takeStock();
         return hearsay.firstClash(questions);
     }
 
@@ -760,7 +799,7 @@ public final class AnswersFirst {
             }
         }
 
-        int workOut(Nodes nodes, int node, int[] things, int depth) {
+        private int workOut(Nodes nodes, int node, int[] things, int depth) {
             if (!within(node, 0, nodes.size - 1) || depth > DEEPEST) {
                 return 0;
             }
@@ -885,31 +924,36 @@ public final class AnswersFirst {
             if (size >= MOST_BYTES) {
                 return NONE;
             }
-            int node = size;
+            kinds[size] = kind;
+            values[size] = value;
+            signs[size] = 1;
+            counts[size] = 0;
+            firsts[size] = NONE;
+            lasts[size] = NONE;
+            nexts[size] = NONE;
             size++;
-            become(node, kind, value);
-            signs[node] = 1;
-            nexts[node] = NONE;
-            return node;
+            return size - 1;
         }
 
         /** Makes a node that there is another one, without parts. */
-        void become(int node, int kind, int value) {
-            if (has(node)) {
+        private void become(int node, int kind, int value) {
+            if (node >= 0 && node < size) {
                 kinds[node] = kind;
                 values[node] = value;
-                dropParts(node);
+                counts[node] = 0;
+                firsts[node] = NONE;
+                lasts[node] = NONE;
             }
         }
 
         void setValue(int node, int value) {
-            if (has(node)) {
+            if (node >= 0 && node < size) {
                 values[node] = value;
             }
         }
 
         private void dropParts(int node) {
-            if (has(node)) {
+            if (node >= 0 && node < size) {
                 counts[node] = 0;
                 firsts[node] = NONE;
                 lasts[node] = NONE;
@@ -917,11 +961,12 @@ public final class AnswersFirst {
         }
 
         void append(int whole, int part, int sign) {
-            if (!has(whole) || !has(part)) {
+            if (whole < 0 || whole >= size || part < 0 || part >= size) {
                 return;
             }
-            if (has(lasts[whole])) {
-                nexts[lasts[whole]] = part;
+            int last = lasts[whole];
+            if (last >= 0 && last < size) {
+                nexts[last] = part;
             } else {
                 firsts[whole] = part;
             }
@@ -931,37 +976,33 @@ public final class AnswersFirst {
             counts[whole]++;
         }
 
-        private boolean has(int node) {
-            return node >= 0 && node < size;
-        }
-
         int kindOf(int node) {
-            return has(node) ? kinds[node] : NONE;
+            return node >= 0 && node < size ? kinds[node] : NONE;
         }
 
         int valueOf(int node) {
-            return has(node) ? values[node] : 0;
+            return node >= 0 && node < size ? values[node] : 0;
         }
 
         int signOf(int node) {
-            return has(node) ? signs[node] : 1;
+            return node >= 0 && node < size ? signs[node] : 1;
         }
 
         int partsOf(int node) {
-            return has(node) ? counts[node] : 0;
+            return node >= 0 && node < size ? counts[node] : 0;
         }
 
         int firstOf(int node) {
-            return has(node) ? firsts[node] : NONE;
+            return node >= 0 && node < size ? firsts[node] : NONE;
         }
 
         int behind(int node) {
-            return has(node) ? nexts[node] : NONE;
+            return node >= 0 && node < size ? nexts[node] : NONE;
         }
 
         /** Says a node of another tree in this one, by the equalities, its parts first: the node here. */
-        int say(Nodes from, int node, int bits, int depth) {
-            if (!from.has(node) || depth > DEEPEST) {
+        private int say(Nodes from, int node, int bits, int depth) {
+            if (node < 0 || node >= from.size || depth > DEEPEST) {
                 return NONE;
             }
             int made = make(from.kindOf(node), from.valueOf(node));
@@ -1009,7 +1050,8 @@ public final class AnswersFirst {
                 case MORE:
                 case LESS:
                     workNumbers(node, bits);
-                    return changeChoice(node, bits);
+                    sortParts(node, bits & CHOICES_IN_ORDER);
+                    return eitherOr(node, bits);
                 case IF:
                     return changeIf(node, bits);
                 default:
@@ -1094,7 +1136,7 @@ public final class AnswersFirst {
             for (int i = 1; i < parts; i++) {
                 int part = row[i];
                 int j = i;
-                while (j > 0 && orderOfParts(this, row[j - 1], this, part, 0) > 0) {
+                while (j > 0 && orderOfTerms(this, row[j - 1], this, part, 0) > 0) {
                     row[j] = row[j - 1];
                     j--;
                 }
@@ -1103,13 +1145,10 @@ public final class AnswersFirst {
             chainParts(node, parts);
         }
 
-        private int changeChoice(int node, int bits) {
-            if (kindOf(node) == NUMBER || (bits & CHOICES_IN_ORDER) == 0) {
-                return node;
-            }
-            sortParts(node, bits);
+        private int eitherOr(int node, int bits) {
             int first = firstOf(node);
-            return orderOf(this, first, this, behind(first), 0) == 0 ? first : node;
+            boolean told = partsOf(node) == 2 && (bits & CHOICES_IN_ORDER) != 0;
+            return told && orderOf(this, first, this, behind(first), 0) == 0 ? first : node;
         }
 
         private int changeIf(int node, int bits) {
@@ -1126,31 +1165,35 @@ public final class AnswersFirst {
             return orderOf(this, row[2], this, row[3], 0) == 0 ? row[2] : node;
         }
 
-        private static int orderOfParts(Nodes a, int x, Nodes b, int y, int depth) {
-            int order = Integer.compare(b.signOf(y), a.signOf(x));
-            return order != 0 ? order : orderOf(a, x, b, y, depth);
-        }
-
         /** Below 0: the first stands ahead in the order of what is said; 0: they are said alike. */
-        static int orderOf(Nodes a, int x, Nodes b, int y, int depth) {
-            if (depth > DEEPEST) {
+        private static int orderOf(Nodes a, int x, Nodes b, int y, int depth) {
+            if (depth > DEEPEST || x < 0 || x >= a.size || y < 0 || y >= b.size) {
                 return 0;
             }
-            int order = Integer.compare(a.kindOf(x), b.kindOf(y));
-            if (order == 0) {
-                order = Integer.compare(a.valueOf(x), b.valueOf(y));
+            if (a.kinds[x] != b.kinds[y]) {
+                return Integer.compare(a.kinds[x], b.kinds[y]);
             }
-            if (order == 0) {
-                order = Integer.compare(a.partsOf(x), b.partsOf(y));
+            if (a.values[x] != b.values[y]) {
+                return Integer.compare(a.values[x], b.values[y]);
             }
-            int one = a.firstOf(x);
-            int other = b.firstOf(y);
-            for (int i = 0; i < a.partsOf(x) && order == 0; i++) {
-                order = orderOfParts(a, one, b, other, depth + 1);
+            if (a.counts[x] != b.counts[y]) {
+                return Integer.compare(a.counts[x], b.counts[y]);
+            }
+            int order = 0;
+            int one = a.firsts[x];
+            int other = b.firsts[y];
+            for (int i = 0; i < a.counts[x] && order == 0; i++) {
+                order = orderOfTerms(a, one, b, other, depth + 1);
                 one = a.behind(one);
                 other = b.behind(other);
             }
             return order;
+        }
+
+        /** As orderOf, but those with + ahead of those with -. */
+        private static int orderOfTerms(Nodes a, int x, Nodes b, int y, int depth) {
+            int order = Integer.compare(b.signOf(y), a.signOf(x));
+            return order != 0 ? order : orderOf(a, x, b, y, depth);
         }
     }
 
@@ -1195,13 +1238,17 @@ public final class AnswersFirst {
         }
     }
 
-    /** The tape, and the token of it that is looked at. */
+    /** The tape, the tokens that it was split into, and the one that is looked at. */
     private static final class Tape {
         private final int[] bytes = new int[MOST_BYTES];
         int length;
+        private final int[] sorts = new int[MOST_BYTES + 1];
+        private final int[] starts = new int[MOST_BYTES + 1];
+        private final int[] values = new int[MOST_BYTES + 1];
+        private int tokens;
         private int at;
-        int start;
         int sort;
+        int start;
         int number;
 
         void addWord(int word) {
@@ -1213,26 +1260,35 @@ public final class AnswersFirst {
             }
         }
 
-        void rewind() {
-            at = 0;
+        /** Splits all of it, and looks at the first token. */
+        void split() {
+            tokens = 0;
+            int place = 0;
+            for (int i = 0; i < MOST_BYTES && place < length; i++) {
+                boolean blank = byteAt(place) == ' ' || byteAt(place) == '\n';
+                place = blank ? place + 1 : takeToken(place);
+            }
+            addToken(TOKEN_END, length, 0);
+            at = NONE;
             advance();
         }
 
+        /** Looks at the next token; the last one, the end, is never passed. */
         void advance() {
-            while (at < length && (byteAt(at) == ' ' || byteAt(at) == '\n')) {
+            if (at + 1 < tokens) {
                 at++;
+                sort = sorts[at];
+                start = starts[at];
+                number = values[at];
             }
-            start = at;
-            number = 0;
-            int first = byteAt(at);
-            if (at >= length) {
-                sort = TOKEN_END;
-            } else if (isDigit(first)) {
-                readNumber();
-            } else if (isLetter(first)) {
-                readWord();
-            } else {
-                readSign(first);
+        }
+
+        private void addToken(int what, int place, int value) {
+            if (tokens < sorts.length) {
+                sorts[tokens] = what;
+                starts[tokens] = place;
+                values[tokens] = value;
+                tokens++;
             }
         }
 
@@ -1248,54 +1304,63 @@ public final class AnswersFirst {
             return (sign >= 'a' && sign <= 'z') || (sign >= 'A' && sign <= 'Z');
         }
 
-        private void readNumber() {
-            sort = TOKEN_NUMBER;
-            while (at < length && isDigit(byteAt(at))) {
-                // 32768 stands for all that is above the greatest number: none is told so high
-                number = Math.min(number * 10 + byteAt(at) - '0', 32768);
-                at++;
+        private int takeToken(int first) {
+            int sign = byteAt(first);
+            if (isDigit(sign)) {
+                return takeNumber(first);
             }
+            return isLetter(sign) ? takeLetters(first) : takeSign(first);
         }
 
-        private void readWord() {
-            while (at < length && isLetter(byteAt(at))) {
-                at++;
+        private int takeNumber(int first) {
+            int value = 0;
+            int place = first;
+            while (place < length && isDigit(byteAt(place))) {
+                // beyond the greatest number it is all one how far: none is told so high
+                value = Math.min(value * 10 + byteAt(place) - '0', GREATEST_NUMBER + 1);
+                place++;
             }
-            sort = TOKEN_BAD;
+            addToken(TOKEN_NUMBER, first, value);
+            return place;
+        }
+
+        private int takeLetters(int first) {
+            int place = first;
+            while (place < length && isLetter(byteAt(place))) {
+                place++;
+            }
+            addToken(sortOfLetters(first, place), first, 0);
+            return place;
+        }
+
+        private int sortOfLetters(int first, int behind) {
             int word = 0;
-            int first = 0;
+            int letter = 0;
+            boolean same = true;
             for (int i = 0; i < WORDS.length(); i++) {
-                if (WORDS.charAt(i) == ' ') {
-                    if (isWord(first, i)) {
-                        sort = FIRST_WORD + word;
-                        return;
-                    }
+                if (WORDS.charAt(i) != ' ') {
+                    same = same && WORDS.charAt(i) == byteAt(first + letter);
+                    letter++;
+                } else if (same && letter == behind - first) {
+                    return FIRST_WORD + word;
+                } else {
                     word++;
-                    first = i + 1;
+                    letter = 0;
+                    same = true;
                 }
             }
+            return TOKEN_BAD;
         }
 
-        private boolean isWord(int first, int behind) {
-            if (behind - first != at - start) {
-                return false;
+        private int takeSign(int first) {
+            int sign = byteAt(first);
+            if (byteAt(first + 1) == '=' && (sign == '<' || sign == '>')) {
+                addToken(sign == '<' ? SIGN_AT_MOST : SIGN_AT_LEAST, first, 0);
+                return first + 2;
             }
-            for (int i = first; i < behind; i++) {
-                if (WORDS.charAt(i) != byteAt(start + i - first)) {
-                    return false;
-                }
-            }
-            return true;
-        }
-
-        private void readSign(int first) {
-            at++;
-            int place = SIGNS.indexOf((char) first);
-            sort = place < 0 ? TOKEN_BAD : FIRST_SIGN + place;
-            if (byteAt(at) == '=' && (first == '<' || first == '>')) {
-                at++;
-                sort = first == '<' ? SIGN_AT_MOST : SIGN_AT_LEAST;
-            }
+            int place = SIGNS.indexOf((char) sign);
+            addToken(place < 0 ? TOKEN_BAD : FIRST_SIGN + place, first, 0);
+            return first + 1;
         }
     }
 
@@ -1318,9 +1383,10 @@ public final class AnswersFirst {
             faultFound = 0;
             faultPlace = NONE;
             script.empty();
-            tape.rewind();
+            tape.split();
             for (int i = 0; i <= MOST_CLAUSES && tape.sort != TOKEN_END; i++) {
-                if (!readClause(script)) {
+                int sort = tape.sort;
+                if (!beginClause(script) || !readRest(script, sort) || !expect(SIGN_SEMICOLON)) {
                     return false;
                 }
                 script.clauses++;
@@ -1334,17 +1400,16 @@ public final class AnswersFirst {
             return NONE;
         }
 
-        private boolean readClause(Script script) {
-            int sort = tape.sort;
-            if (!within(sort, TOKEN_ASK, TOKEN_MORNING)) {
+        private boolean beginClause(Script script) {
+            if (!within(tape.sort, TOKEN_ASK, TOKEN_MORNING)) {
                 return fail(CANT_STAND) != NONE;
             }
             if (script.clauses >= MOST_CLAUSES) {
                 return fail(TOO_MANY_CLAUSES) != NONE;
             }
+            script.beginClause(tape.sort);
             tape.advance();
-            script.beginClause(sort);
-            return readRest(script, sort) && expect(SIGN_SEMICOLON);
+            return true;
         }
 
         private boolean readRest(Script script, int sort) {
@@ -1585,6 +1650,8 @@ public final class AnswersFirst {
         final int[] depths = new int[MOST_QUESTIONS];
         final int[] words = new int[MOST_QUESTIONS];
         final int[] greatest = new int[MOST_QUESTIONS];
+        /** What each comes to, as it was last worked out. */
+        final int[] answers = new int[MOST_QUESTIONS];
         int count;
         int equalityBits;
         private final Nodes[] said = new Nodes[MOST_QUESTIONS];
@@ -1625,8 +1692,14 @@ public final class AnswersFirst {
             return tree == null ? 0 : world.workOut(tree, roots[question], things, 0);
         }
 
+        void workAll(World world) {
+            for (int i = 0; i < count; i++) {
+                Nodes tree = trees[i];
+                answers[i] = tree == null ? 0 : world.workOut(tree, roots[i], world.numbers, 0);
+            }
+        }
+
         boolean areAlike(int one, int other) {
-            sayAll();
             return lowestAlike[one] == lowestAlike[other];
         }
 
@@ -1641,9 +1714,10 @@ public final class AnswersFirst {
             return all;
         }
 
-        private void sayAll() {
+        void sayAll() {
             for (int i = saidNow; i < count; i++) {
-                saidRoots[i] = sayInto(said[i], i, equalityBits);
+                said[i].size = 0;
+                saidRoots[i] = trees[i] == null ? NONE : said[i].say(trees[i], roots[i], equalityBits, 0);
                 lowestAlike[i] = i;
                 for (int j = 0; j < i && lowestAlike[i] == i; j++) {
                     if (Nodes.orderOf(said[j], saidRoots[j], said[i], saidRoots[i], 0) == 0) {
@@ -1654,15 +1728,14 @@ public final class AnswersFirst {
             saidNow = count;
         }
 
-        private int sayInto(Nodes into, int question, int bits) {
-            Nodes tree = trees[question];
-            into.size = 0;
-            return tree == null ? NONE : into.say(tree, roots[question], bits, 0);
-        }
-
         boolean areAlikeByAll(int one, int other) {
-            int first = sayInto(spareOne, one, ALL_EQUALITIES);
-            int second = sayInto(spareOther, other, ALL_EQUALITIES);
+            if (trees[one] == null || trees[other] == null) {
+                return false;
+            }
+            spareOne.size = 0;
+            spareOther.size = 0;
+            int first = spareOne.say(trees[one], roots[one], ALL_EQUALITIES, 0);
+            int second = spareOther.say(trees[other], roots[other], ALL_EQUALITIES, 0);
             return Nodes.orderOf(spareOne, first, spareOther, second, 0) == 0;
         }
 
@@ -1737,14 +1810,14 @@ public final class AnswersFirst {
             return lowest;
         }
 
-        int hindrance(int pupil, int question, Questions questions, World world) {
+        int hindrance(int pupil, int question, Questions questions) {
             if (hasAsked(pupil)) {
                 return 1;
             }
             if (lacking(pupil, question, questions) != 0) {
                 return 2;
             }
-            if (questions.answerIn(question, world, world.numbers) != theAnswer) {
+            if (questions.answers[question] != theAnswer) {
                 return 3;
             }
             return barring(question, questions) != NONE ? 4 : 0;
@@ -1758,20 +1831,20 @@ public final class AnswersFirst {
             }
         }
 
-        private int lowestNow(int pupil, Questions questions, World world) {
+        private int lowestNow(int pupil, Questions questions) {
             for (int q = 0; q < questions.count; q++) {
-                if (hindrance(pupil, q, questions, world) == 0) {
+                if (hindrance(pupil, q, questions) == 0) {
                     return q;
                 }
             }
             return NONE;
         }
 
-        int shortestNow(int pupil, Questions questions, World world) {
+        int shortestNow(int pupil, Questions questions) {
             int best = NONE;
             for (int q = 0; q < questions.count; q++) {
                 boolean shorter = best == NONE || questions.leaves[q] < questions.leaves[best];
-                if (shorter && hindrance(pupil, q, questions, world) == 0) {
+                if (shorter && hindrance(pupil, q, questions) == 0) {
                     best = q;
                 }
             }
@@ -1811,7 +1884,7 @@ public final class AnswersFirst {
             return NONE;
         }
 
-        int holdMorning(int seed, Questions questions, World world) {
+        int holdMorning(int seed, Questions questions) {
             int before = steps;
             int waiting = whoHasNotAsked();
             int draw = seed * 3 + 7;
@@ -1819,7 +1892,7 @@ public final class AnswersFirst {
                 int pupil = seed == NONE ? youngest(waiting) : drawn(waiting, draw);
                 draw = (draw * 131 + 89) % 30011;
                 waiting &= ~(1 << pupil);
-                int question = lowestNow(pupil, questions, world);
+                int question = lowestNow(pupil, questions);
                 if (question != NONE) {
                     addStep(pupil, question);
                 }
@@ -1827,14 +1900,14 @@ public final class AnswersFirst {
             return steps - before;
         }
 
-        int firstPassedOver(Questions questions, World world) {
+        int firstPassedOver(Questions questions) {
             int before = steps;
             int waiting = whoHasNotAsked();
             int found = NONE;
             for (int turn = 0; turn < pupils && waiting != 0 && found == NONE; turn++) {
                 int pupil = youngest(waiting);
                 waiting &= ~(1 << pupil);
-                int question = lowestNow(pupil, questions, world);
+                int question = lowestNow(pupil, questions);
                 if (question == NONE) {
                     found = pupil;
                 } else {
@@ -1874,13 +1947,13 @@ public final class AnswersFirst {
         private int pupils;
         private int questions;
 
-        void look(School school, Questions asked, World world) {
+        void look(School school, Questions asked) {
             pupils = school.pupils;
             questions = asked.count;
             Arrays.fill(open, 0);
             for (int q = 0; q < questions; q++) {
                 like[q] = asked.allAlike(q);
-                if (asked.answerIn(q, world, world.numbers) == school.theAnswer) {
+                if (asked.answers[q] == school.theAnswer) {
                     openTo(q, school, asked);
                 }
             }
@@ -2007,12 +2080,15 @@ public final class AnswersFirst {
 
     /** How many trees there are to a value, counted when they are asked for and kept while the things stay. */
     private static final class Trees {
-        private final int[][] rows = new int[(GREATEST_M + 1) * TREE_LEAVES][];
+        /** By m, leaves and value, one behind the other: 13 to the 5th trees in 14 shapes of 81 signs fit an int. */
+        private final int[] counts = new int[(GREATEST_M + 1) * TREE_LEAVES * VALUES];
+        /** By m: up to how many leaves they are counted. */
         private final int[] ready = new int[GREATEST_M + 1];
         private final int[] things = new int[THINGS];
-        private final int[] written = new int[2 * TREE_LEAVES - 1];
         private final int[] there = new int[VALUES];
+        private final int[] written = new int[2 * TREE_LEAVES - 1];
 
+        /** Counts what isn't yet counted of trees of up to n leaves. */
         void prepare(int m, int n, int[] numbers) {
             for (int t = 0; t < THINGS; t++) {
                 if (things[t] != numbers[t]) {
@@ -2021,78 +2097,78 @@ public final class AnswersFirst {
                 }
             }
             for (int k = ready[m] + 1; k <= n; k++) {
-                int[] row = emptyRow(m, k);
+                clear(m, k);
                 if (k == 1) {
-                    countLeaves(row, m);
+                    countLeaves(m);
                 }
                 for (int part = 1; part <= k - part; part++) {
-                    join(rowOf(m, part), rowOf(m, k - part), row, part < k - part);
+                    join(m, part, k - part);
                 }
                 ready[m] = k;
             }
         }
 
-        private int[] rowOf(int m, int n) {
-            int place = m * TREE_LEAVES + n - 1;
-            if (rows[place] == null) {
-                rows[place] = new int[VALUES];
+        private static int placeOf(int m, int n, int v) {
+            return (m * TREE_LEAVES + n - 1) * VALUES + v + WIDEST;
+        }
+
+        private void clear(int m, int n) {
+            int zero = placeOf(m, n, 0);
+            for (int v = -WIDEST; v <= WIDEST; v++) {
+                counts[zero + v] = 0;
             }
-            return rows[place];
         }
 
-        private int[] emptyRow(int m, int n) {
-            int[] row = rowOf(m, n);
-            Arrays.fill(row, 0);
-            return row;
-        }
-
-        private void countLeaves(int[] row, int m) {
+        private void countLeaves(int m) {
             for (int number = 1; number <= m; number++) {
-                addTo(row, number, 1);
+                counts[placeOf(m, 1, number)]++;
             }
             for (int t = 0; t < THINGS; t++) {
-                addTo(row, things[t], 1);
+                counts[placeOf(m, 1, things[t])]++;
             }
         }
 
-        private static void addTo(int[] row, int value, int count) {
-            if (value >= -WIDEST && value <= WIDEST) {
-                row[value + WIDEST] += count;
-            }
-        }
-
-        /** Joins all of two rows; both: the second row's trees stand on the left side as well. */
-        private void join(int[] one, int[] other, int[] into, boolean both) {
+        /** Joins all trees of so many leaves with all of so many others, each on the left and on the right side. */
+        private void join(int m, int one, int other) {
+            int zero = placeOf(m, other, 0);
             int many = 0;
-            for (int i = 0; i < VALUES; i++) {
-                if (other[i] != 0) {
-                    there[many] = i;
+            for (int v = -WIDEST; v <= WIDEST; v++) {
+                if (counts[zero + v] != 0) {
+                    there[many] = v;
                     many++;
                 }
             }
-            for (int i = 0; i < VALUES; i++) {
-                if (one[i] != 0) {
-                    joinValue(i - WIDEST, one[i], other, many, into, both);
+            for (int v = -WIDEST; v <= WIDEST; v++) {
+                int count = counts[placeOf(m, one, v)];
+                if (count != 0) {
+                    joinValue(v, count, zero, many, placeOf(m, one + other, 0), one != other);
                 }
             }
         }
 
-        private void joinValue(int x, int count, int[] other, int many, int[] into, boolean both) {
-            int times = both ? 2 : 1;
-            for (int j = 0; j < many; j++) {
-                int y = there[j] - WIDEST;
-                int pairs = count * other[there[j]];
-                addTo(into, x + y, pairs * times);
-                addTo(into, x - y, pairs);
-                addTo(into, x * y, pairs * times);
-                if (both) {
-                    addTo(into, y - x, pairs);
+        /** Twice: the two have unlike numbers of leaves, so that the same two come in the other order as well. */
+        private void joinValue(int x, int count, int zero, int many, int into, boolean twice) {
+            for (int i = 0; i < many; i++) {
+                int y = there[i];
+                int pairs = count * counts[zero + y];
+                int both = twice ? 2 * pairs : pairs;
+                if (x + y >= -WIDEST && x + y <= WIDEST) {
+                    counts[into + x + y] += both;
+                }
+                if (x * y >= -WIDEST && x * y <= WIDEST) {
+                    counts[into + x * y] += both;
+                }
+                if (x - y >= -WIDEST && x - y <= WIDEST) {
+                    counts[into + x - y] += pairs;
+                    if (twice) {
+                        counts[into + y - x] += pairs;
+                    }
                 }
             }
         }
 
         int countOf(int m, int n, int v) {
-            return v >= -WIDEST && v <= WIDEST ? rowOf(m, n)[v + WIDEST] : 0;
+            return v >= -WIDEST && v <= WIDEST ? counts[placeOf(m, n, v)] : 0;
         }
 
         int fewestLeaves(int m, int v, int most, int[] numbers) {
@@ -2182,14 +2258,14 @@ public final class AnswersFirst {
             } else if (sign == 1) {
                 y = x - v;
             } else if (x == 0) {
-                return v == 0 ? rarestLeast(m, n) : NO_VALUE;
+                return v == 0 ? leastOf(m, n) : NO_VALUE;
             } else if (v % x == 0) {
                 y = v / x;
             }
             return countOf(m, n, y) != 0 ? y : NO_VALUE;
         }
 
-        private int rarestLeast(int m, int n) {
+        private int leastOf(int m, int n) {
             for (int v = -WIDEST; v <= WIDEST; v++) {
                 if (countOf(m, n, v) != 0) {
                     return v;
@@ -2253,10 +2329,10 @@ public final class AnswersFirst {
             return words;
         }
 
-        int liesIn(Questions questions, World world) {
+        int liesIn(Questions questions) {
             int lying = 0;
             for (int i = 0; i < told; i++) {
-                if (questions.answerIn(toldQuestions[i], world, world.numbers) != toldAnswers[i]) {
+                if (questions.answers[toldQuestions[i]] != toldAnswers[i]) {
                     lying |= 1 << i;
                 }
             }
