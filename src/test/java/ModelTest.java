@@ -12,7 +12,8 @@ public final class ModelTest {
     private final List<Tree> trees = new ArrayList<>();
 
     private ModelTest(long seed) {
-        random = new Random(seed);
+        // neighbouring seeds would draw much alike at first
+        random = new Random(seed * 0x9E3779B97F4A7C15L);
     }
 
     public static void main(String[] args) {
@@ -240,7 +241,68 @@ public final class ModelTest {
         return in(0, Math.max(0, y.s.pupils.size() - 1));
     }
 
+    /** Questions that all come to 5 where p is 2 and q is 3, many of them the same in other words. */
+    private static final String[] FIVES = {"p+q", "q+p", "5", "2+3", "3+2", "(p+q)*1", "5*1", "5+0", "0+5",
+        "more(5,p)", "more(p,5)", "more(5,5)", "less(9,5)", "less(5,9)", "if p<q?5:5end", "if q>p?5:0end",
+        "if p<q?5:0end", "p*q-1", "q*p-1", "10-5", "p+p+1", "1+p+p", "1+(p+p)", "p-(0-q)", "8-q", "q+2", "2+q"};
+
+    private void openSchool() {
+        read("let p be 2;let q be 3;answer 5;say " + number(0, 255, 255) + ";");
+        for (int i = 0; i < 2; i++) {
+            StringBuilder text = new StringBuilder();
+            for (int k = random.nextInt(4) + 3; k > 0; k--) {
+                text.append("ask ").append(FIVES[random.nextInt(FIVES.length)]).append(";");
+            }
+            read(text.toString());
+        }
+        for (int i = random.nextInt(6); i >= 0; i--) {
+            int w = chance(2) ? 32767 : random.nextInt(32768) | random.nextInt(32768) | 16;
+            int n = random.nextInt(12);
+            int d = random.nextInt(3);
+            int l = 1 + random.nextInt(4);
+            due(13, "pupil", x.pupil(i + 1, w, n, d, l), y.pupil(i + 1, w, n, d, l));
+        }
+        due(44, "image()", x.image(), y.image());
+    }
+
+    private void runSchool() {
+        openSchool();
+        for (int call = 0; call < 300 && CHECK.wrong() == 0; call++) {
+            switch (random.nextInt(9)) {
+                case 0:
+                case 1:
+                case 2:
+                    asking();
+                    break;
+                case 3:
+                    planning();
+                    due(14, "answer(5)", x.answer(5), y.answer(5));
+                    break;
+                case 4:
+                case 5:
+                    planning();
+                    break;
+                case 6:
+                    hearing();
+                    break;
+                case 7:
+                    due(26, "undo()", x.undo(), y.undo());
+                    break;
+                default:
+                    if (chance(3)) {
+                        due(44, "image()", x.image(), y.image());
+                    } else {
+                        due(45, "back()", x.back(), y.back());
+                    }
+            }
+        }
+    }
+
     private void run() {
+        if (chance(2)) {
+            runSchool();
+            return;
+        }
         for (int i = 0; i < 5 && random.nextInt(8) != 0; i++) {
             readText();
         }
@@ -268,7 +330,10 @@ public final class ModelTest {
     }
 
     private void readText() {
-        String text = drawnText();
+        read(drawnText());
+    }
+
+    private void read(String text) {
         log.add("[" + text + "]");
         Check.type(x, text);
         y.tape.setLength(0);
