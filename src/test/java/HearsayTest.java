@@ -137,6 +137,8 @@ public final class HearsayTest {
                 + "pupil 9 knows 1 to 9 deep 0 long 1;pupil 8 knows 17 to 9 deep 0 long 2;asks 0 0;");
         x.hear(0, 0);
         x.tell(1, 9);
+        x.tell(0, 4);
+        x.tell(1, 8);
         C.due(44, "image()", x.image(), 1);
         x.undo();
         Check.play(x, "ask q;let p be 5;let q be 6;born 31;path 0 to 1 long 6;path 2 to 3 long 6;say 0;answer 6;"
@@ -151,7 +153,7 @@ public final class HearsayTest {
         x.text();
         Check.type(x, "ask 12");
         C.due(45, "back()", x.back(), 1);
-        int[] want = {2, 1, 2, 4, 4, 1, 1, 1, 1, 6, 4, 0, 0, 0};
+        int[] want = {2, 1, 2, 4, 4, 1, 1, 1, 3, 6, 4, 0, 0, 0};
         for (int what = 0; what < 14; what++) {
             C.due(45, "about(" + what + ") after back()", x.about(what), want[what]);
         }
@@ -163,7 +165,11 @@ public final class HearsayTest {
         C.due(45, "why(1, 1)", x.why(1, 1), 4);
         C.due(45, "knew(0)", x.knew(0), 1);
         C.due(45, "worlds(NONE)", x.worlds(-1), 10);
-        C.due(45, "lies()", x.lies(), 1);
+        C.due(45, "lies()", x.lies(), 1 + 4);
+        C.due(45, "clash(): p and p+0 are alike", x.clash(), 1);
+        x.equalities(0);
+        C.due(45, "clash() by nothing", x.clash(), 2);
+        x.back();
         C.due(45, "played(1)", x.played(1), -2);
         C.due(45, "about(30)", x.about(30), 30);
         // other texts, questions, people and pupils where those were that are gone
@@ -178,7 +184,14 @@ public final class HearsayTest {
         C.due(44, "image() anew", x.image(), 0);
         x.ask(1, 1);
         C.due(45, "back() to it", x.back(), 0);
-        x.kin(0, 0);
+        x = Check.of("ask kids(0);born 9;born 8;");
+        x.image();
+        x.person(1, 0, 1);
+        C.due(45, "kin(0, 1) by a child", x.kin(0, 1), 2);
+        C.due(45, "of(0, 0) with a child", x.of(0, 0), 1);
+        x.back();
+        C.due(45, "kin(0, 1) after back()", x.kin(0, 1), -1);
+        C.due(45, "of(0, 0) after back()", x.of(0, 0), 0);
     }
 
     private static void about() {

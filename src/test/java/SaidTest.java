@@ -55,6 +55,12 @@ public final class SaidTest {
         comes("if p<=p?1:0 end", 1);
         comes("if p>p?1:0 end", 0);
         comes("if p>=p?1:0 end", 1);
+        comes("if p<=q?1:0 end", 1);
+        comes("if q<=p?1:0 end", 0);
+        comes("if p>=q?1:0 end", 0);
+        comes("if q>=p?1:0 end", 1);
+        comes("if p>q?1:0 end", 0);
+        comes("if q>p?1:0 end", 1);
         comes("if p=2?1:0 end", 1);
         comes("if p=q?1:0 end", 0);
         comes("if p#q?1:0 end", 1);
@@ -78,7 +84,12 @@ public final class SaidTest {
         C.due(15, "of(0, -1)", x.of(0, -1), -2000000);
         x = Check.of("ask age(kids(1));");
         C.due(15, "words of age, kids", x.of(0, 3), 256 + 512);
-        x.thing(0, 9);
+        C.due(15, "depth of age, kids", x.of(0, 2), 2);
+        x = Check.of("ask p+if (1)<2?3:4 end;ask if 1<(2)?3:4 end;ask if 1<2?(3):4 end;ask if 1<2?3:((4))end;ask more(1,(2));");
+        C.due(15, "words ahead of an if", x.of(0, 3), 1 + 16 + 128 + 16384);
+        for (int q = 0; q < 5; q++) {
+            C.due(15, "depth in part " + q, x.of(q, 2), q == 3 ? 3 : 2);
+        }
     }
 
     private static void equalities() {
@@ -93,6 +104,10 @@ public final class SaidTest {
         C.due(12, "equalities(0)", x.equalities(0), true);
         C.due(16, "alike(0, 1)", x.alike(0, 1), 0);
         C.due(17, "nearly(0, 1)", x.nearly(0, 1), 1);
+        x.equalities(1);
+        C.due(17, "nearly(0, 1) at once", x.nearly(0, 1), 0);
+        x.equalities(2);
+        C.due(17, "nearly(0, 1) at once", x.nearly(0, 1), 1);
         C.due(17, "nearly(0, 0)", x.nearly(0, 0), 0);
         C.due(17, "nearly(0, 2)", x.nearly(0, 2), 0);
         C.due(16, "alike(2, 2)", x.alike(2, 2), 1);

@@ -208,6 +208,13 @@ public final class SchoolTest {
     }
 
     private static void orders() {
+        C.due(29, "shut() at once", four("ask 3;answer 3;").shut(), 7);
+        AnswersFirst y = four("ask p;answer 3;");
+        C.due(29, "none can", y.shut(), 15);
+        y.thing(0, 3);
+        C.due(29, "one can now", y.shut(), 1 + 2 + 8);
+        y.equalities(1);
+        C.due(28, "order(NONE) at once", y.order(-1), 1);
         order(new AnswersFirst(), 0);
         C.due(29, "shut() of none", new AnswersFirst().shut(), 0);
         AnswersFirst x = four("ask 3;ask 2+1;ask 1+2;ask 3*1;answer 3;");

@@ -169,6 +169,17 @@ public final class TextTest {
         fault("ask ((((((((if 1<2?1:2 end))))))));", 3, 12);
         fault("ask if ((((((((1))))))))<2?1:2 end;", 3, 14);
         good("ask if (((((((1)))))))<2?(((((((1))))))):2 end+((((((((1))))))));");
+        good("ask age(age(age(age(age(age(age(age(1))))))));");
+        fault("ask age(age(age(age(age(age(age(age(age(1)))))))));", 3, 39);
+        good("ask kin(1,kin(1,kin(1,kin(1,kin(1,kin(1,kin(1,kin(1,1))))))));");
+        fault("ask kin(1,kin(1,kin(1,kin(1,kin(1,kin(1,kin(1,kin(1,kin(1,1)))))))));", 3, 55);
+        for (int part = 0; part < 4; part++) {
+            String[] in = {"1", "1", "1", "1"};
+            in[part] = "(((((((1)))))))";
+            good("ask if " + in[0] + "<" + in[1] + "?" + in[2] + ":" + in[3] + " end;");
+            in[part] = "((((((((1))))))))";
+            fault("ask if " + in[0] + "<" + in[1] + "?" + in[2] + ":" + in[3] + " end;", 3, 14 + 2 * part);
+        }
         // sixteen leaves are fine, in each question of its own
         String sixteen = "1+p+1+p+1+p+1+p+1+p+1+p+1+p+1+p";
         good("ask " + sixteen + ";ask " + sixteen + ";");
@@ -231,7 +242,17 @@ public final class TextTest {
         C.due(11, "morning", Check.play(x, lesson), -1);
         C.due(11, "by age", x.asked(0, false), 1);
         C.due(11, "the other", x.asked(1, true), 1);
+        x = Check.of("ask p;ask q;answer 7;pupil 9 knows 3 to 0 deep 0 long 1;pupil 8 knows 3 to 0 deep 0 long 1;");
+        C.due(11, "nothing is 7", Check.play(x, "asks 0 0;"), 0);
+        x.thing(0, 7);
+        C.due(11, "p is 7 by hand", x.played(1), -1);
+        C.due(11, "nothing else is", Check.play(x, "morning;"), -1);
+        C.due(11, "one has asked", x.about(5), 1);
+        x.thing(1, 7);
+        C.due(11, "q is 7 by hand", x.played(2), -1);
+        C.due(11, "two have asked", x.about(5), 2);
         C.due(11, "a pupil who isn't told", Check.play(x, "asks 5 0;"), 0);
+        x = new AnswersFirst();
         C.due(11, "path and let", Check.play(x, "path 0 to 5 long 9;path 5 to 0 long 8;let p be 1;let p be 2;"), -1);
         C.due(11, "way(0, 5)", x.way(0, 5), 8);
         C.due(11, "about(10)", x.about(10), 2);

@@ -62,7 +62,9 @@ public final class TreesTest {
         allTrees(new int[] {0, 0, 0, 0}, 0, 4);
         allTrees(new int[] {25, 20, 4, 1}, 1, 4);
         edges();
+        atOnce();
         fives();
+        whole();
         C.finish();
     }
 
@@ -201,6 +203,50 @@ public final class TreesTest {
         C.due(34, "shortest(9, 10, 0)", x.shortest(9, 10, 0), 2002);
         x.back();
         C.due(34, "shortest(9, 10, NONE)", x.shortest(9, 10, -1), 3);
+    }
+
+    /** Each of them on a new object, so that none rests on what another one counted. */
+    private static void atOnce() {
+        AnswersFirst x = new AnswersFirst();
+        x.thing(0, 5);
+        C.due(35, "rarest(2, 1, 1, 99)", x.rarest(2, 1, 1, 99), 2);
+        x.thing(0, 9);
+        C.due(35, "rarest(1, 1, 2, 99)", x.rarest(1, 1, 2, 99), 9);
+        x = new AnswersFirst();
+        x.thing(0, 50);
+        x.thing(1, 10);
+        C.due(32, "kinds(2, 0, 500)", x.kinds(2, 0, 500), 2);
+        // 0 - 50 * 10 in 4 ways, the 0 - within in 8; for 500 the 0 behind, ahead, within: 8, 4, 24
+        C.due(32, "kinds(3, 0, -500)", x.kinds(3, 0, -500), 12);
+        C.due(32, "kinds(3, 0, 500)", x.kinds(3, 0, 500), 36);
+        x.thing(0, 51);
+        C.due(32, "kinds(2, 0, 500) then", x.kinds(2, 0, 500), 0);
+        C.due(32, "kinds(3, 0, -500) then", x.kinds(3, 0, -500), 0);
+        C.due(33, "fewest(0, 500) then", x.fewest(0, 500), 3 + 2);
+        x.pupil(5, 0, 0, 0, 1);
+        C.due(36, "fair(0, 0, 500)", x.fair(0, 0, 500), 0);
+        C.due(36, "fair(0, 1, 500)", x.fair(0, 1, 500), 10);
+    }
+
+    /** With these all values up to 500 are there by five leaves; with fewer leaves some aren't. */
+    private static void whole() {
+        AnswersFirst x = new AnswersFirst();
+        int[] things = {97, 61, 40, 23};
+        for (int t = 0; t < 4; t++) {
+            x.thing(t, things[t]);
+        }
+        for (int n = 1; n <= 5; n++) {
+            int least = -1;
+            for (int v = 500; v >= 0; v--) {
+                long kinds = 0;
+                for (int k = 1; k <= n; k++) {
+                    kinds += x.kinds(k, 9, v);
+                }
+                least = kinds == 0 ? v : least;
+            }
+            C.due(37, "unasked(" + n + ", 9)", x.unasked(n, 9), least);
+        }
+        C.due(37, "unasked(5, 9), none", x.unasked(5, 9), -1);
     }
 
     private static void fives() {
