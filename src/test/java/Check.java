@@ -59,11 +59,12 @@ final class Check {
         return number < 0 ? -3 : x.played(number);
     }
 
-    /** The fault of a text and its place: 1000 times the first, and the second. */
+    /** The fault of a text and its place: 1000 times the first, and the second; 999999: it was taken all the same. */
     static int faultOf(String text) {
         AnswersFirst x = new AnswersFirst();
         type(x, text);
-        x.text();
-        return x.fault(0) * 1000 + x.fault(1);
+        boolean taken = x.text() == 0;
+        boolean good = taken == (x.fault(0) == 0) && x.about(6) == (taken ? 1 : 0) && x.about(9) == 0;
+        return good ? x.fault(0) * 1000 + x.fault(1) : 999999;
     }
 }

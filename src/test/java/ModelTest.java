@@ -505,7 +505,7 @@ public final class ModelTest {
         int n = in(1, 4 + random.nextInt(2));
         int m = in(0, chance(3) ? 9 : 3);
         int v = in(-500, 500);
-        v = chance(2) ? v / 20 : v;
+        v = chance(2) ? v / 20 : chance(6) ? (chance(2) ? 500 : -500) : v;
         int w = in(-500, 500);
         switch (random.nextInt(6)) {
             case 0:

@@ -88,6 +88,14 @@ public final class TextTest {
         fault("ask if p< =q?1:2end;", 1, 10);
         fault("ask if p=<q?1:2end;", 1, 9);
         fault("ask pq;", 1, 4);
+        fault("ask pa;", 1, 4);
+        fault("ask pz;", 1, 4);
+        fault("ask pA;", 1, 4);
+        fault("ask pZ;", 1, 4);
+        fault("ask p0;", 1, 5);
+        fault("ask 9p;", 1, 5);
+        fault("ask +1;", 1, 4);
+        fault(";", 1, 0);
         fault("ask P;", 1, 4);
         fault("Ask p;", 1, 0);
         fault("askp;", 1, 0);
