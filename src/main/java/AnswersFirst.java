@@ -19,7 +19,7 @@ public final class AnswersFirst {
     private static final int MOST_BYTES = 300;
     private static final int GREATEST_NUMBER = 32767;
     private static final int MOST_CLAUSES = 24;
-    private static final int CLAUSE_PARTS = 5;
+    private static final int CLAUSE_PARTS = 6;
     private static final int MOST_QUESTIONS = 12;
     private static final int MOST_PUPILS = 6;
     private static final int MOST_OPEN = 8;
@@ -37,7 +37,7 @@ public final class AnswersFirst {
     private static final int NUMBERS_WORKED = 128;
     private static final int ALL_EQUALITIES = 255;
 
-    /** Eight brackets open, three levels for each, and the three that need none. */
+    /** Eight open brackets with three levels for each, and three more without: no tree is as deep as this. */
     private static final int DEEPEST = 40;
 
     // What a node of a question is; the numbers stand in the order of III.
@@ -708,6 +708,8 @@ public final class AnswersFirst {
         private final int[] kinSteps = new int[MOST_PEOPLE * MOST_PEOPLE];
         private final int[] wayLengths = new int[TOWNS * TOWNS];
         private final int[] children = new int[MOST_PEOPLE];
+        /** By node: what it comes to, while a question is worked out. */
+        private final int[] results = new int[MOST_BYTES];
         /** Grows whenever kin or ways may be others than before. */
         int version;
 
@@ -799,57 +801,87 @@ public final class AnswersFirst {
             }
         }
 
-        private int workOut(Nodes nodes, int node, int[] things, int depth) {
-            if (!within(node, 0, nodes.size - 1) || depth > DEEPEST) {
+        /** Works out the nodes from the first to the root, in their order: each one stands behind its parts. */
+        int workOut(Nodes nodes, int first, int root, int[] things) {
+            if (first < 0 || first > root || root >= nodes.size) {
                 return 0;
             }
-            switch (nodes.kinds[node]) {
-                case NUMBER:
-                    return nodes.values[node];
-                case THING:
-                    return within(nodes.values[node], 0, things.length - 1) ? things[nodes.values[node]] : 0;
-                case PLUS:
-                    return workPlus(nodes, node, things, depth);
-                case TIMES:
-                    return workTimes(nodes, node, things, depth);
-                case IF:
-                    return workIf(nodes, node, things, depth);
-                default:
-                    return workWord(nodes, node, things, depth);
+            for (int node = first; node <= root; node++) {
+                int value = nodes.values[node];
+                switch (nodes.kinds[node]) {
+                    case NUMBER:
+                        results[node] = value;
+                        break;
+                    case THING:
+                        results[node] = value >= 0 && value < things.length ? things[value] : 0;
+                        break;
+                    case PLUS:
+                        results[node] = sumOf(nodes, node);
+                        break;
+                    case TIMES:
+                        results[node] = productOf(nodes, node);
+                        break;
+                    default:
+                        results[node] = workWord(nodes, node);
+                }
             }
+            return results[root];
         }
 
-        private int workPlus(Nodes nodes, int node, int[] things, int depth) {
-            long sum = 0;
-            int part = nodes.firstOf(node);
-            for (int i = 0; i < nodes.partsOf(node); i++) {
-                long term = workOut(nodes, part, things, depth + 1);
-                sum = clamped(nodes.signOf(part) < 0 ? sum - term : sum + term);
-                part = nodes.behind(part);
+        private int sumOf(Nodes nodes, int node) {
+            int sum = 0;
+            int part = nodes.firsts[node];
+            for (int i = nodes.counts[node]; i > 0 && part >= 0 && part < node; i--) {
+                sum += nodes.signs[part] < 0 ? -results[part] : results[part];
+                if (sum > BIGGEST || sum < -BIGGEST) {
+                    sum = clamped(sum);
+                }
+                part = nodes.nexts[part];
             }
-            return (int) sum;
+            return sum;
         }
 
-        private int workTimes(Nodes nodes, int node, int[] things, int depth) {
+        private int productOf(Nodes nodes, int node) {
             long product = 1;
-            int part = nodes.firstOf(node);
-            for (int i = 0; i < nodes.partsOf(node); i++) {
-                product = clamped(product * workOut(nodes, part, things, depth + 1));
-                part = nodes.behind(part);
+            int part = nodes.firsts[node];
+            for (int i = nodes.counts[node]; i > 0 && part >= 0 && part < node; i--) {
+                product *= results[part];
+                if (product > BIGGEST || product < -BIGGEST) {
+                    product = clamped(product);
+                }
+                part = nodes.nexts[part];
             }
             return (int) product;
         }
 
-        private int workIf(Nodes nodes, int node, int[] things, int depth) {
-            int part = nodes.firstOf(node);
-            int one = workOut(nodes, part, things, depth + 1);
-            part = nodes.behind(part);
-            int other = workOut(nodes, part, things, depth + 1);
-            part = nodes.behind(part);
-            if (!holds(nodes.valueOf(node), one, other)) {
-                part = nodes.behind(part);
+        private int workWord(Nodes nodes, int node) {
+            int first = nodes.firsts[node];
+            int one = resultOf(first, node);
+            int second = nodes.behind(first);
+            int other = resultOf(second, node);
+            switch (nodes.kinds[node]) {
+                case AGE:
+                    return within(one, 0, people - 1) ? ages[one] : NONE;
+                case KIDS:
+                    return within(one, 0, people - 1) ? children[one] : NONE;
+                case KIN:
+                    return kinOf(one, other);
+                case WAY:
+                    return wayOf(one, other);
+                case MORE:
+                    return Math.max(one, other);
+                case LESS:
+                    return Math.min(one, other);
+                default: {
+                    int third = nodes.behind(second);
+                    boolean chosen = holds(nodes.values[node], one, other);
+                    return resultOf(chosen ? third : nodes.behind(third), node);
+                }
             }
-            return workOut(nodes, part, things, depth + 1);
+        }
+
+        private int resultOf(int part, int node) {
+            return part >= 0 && part < node && part < results.length ? results[part] : 0;
         }
 
         private static boolean holds(int comparison, int one, int other) {
@@ -867,26 +899,6 @@ public final class AnswersFirst {
                 default:
                     return one != other;
             }
-        }
-
-        private int workWord(Nodes nodes, int node, int[] things, int depth) {
-            int part = nodes.firstOf(node);
-            int one = workOut(nodes, part, things, depth + 1);
-            int kind = nodes.kindOf(node);
-            if (kind == AGE) {
-                return within(one, 0, people - 1) ? ages[one] : NONE;
-            }
-            if (kind == KIDS) {
-                return within(one, 0, people - 1) ? children[one] : NONE;
-            }
-            int other = workOut(nodes, nodes.behind(part), things, depth + 1);
-            if (kind == KIN) {
-                return kinOf(one, other);
-            }
-            if (kind == WAY) {
-                return wayOf(one, other);
-            }
-            return kind == MORE ? Math.max(one, other) : Math.min(one, other);
         }
 
         void save(Row row) {
@@ -907,7 +919,7 @@ public final class AnswersFirst {
     /**
      * Trees of questions in rows: each node with its kind, its value (a number, a thing, a comparison),
      * its sign in a sum, and the chain of its parts. A node takes a byte of its text at least, so that
-     * a text never needs more nodes than a tape has bytes.
+     * a text never needs more nodes than a tape has bytes. As they are read, all stand behind their parts.
      */
     private static final class Nodes {
         final int[] kinds = new int[MOST_BYTES];
@@ -946,7 +958,26 @@ public final class AnswersFirst {
             }
         }
 
-        void setValue(int node, int value) {
+        /** Chains a part behind another one, for a whole that is made later. */
+        void link(int ahead, int part, int sign) {
+            if (ahead >= 0 && ahead < size && part >= 0 && part < size) {
+                nexts[ahead] = part;
+                signs[part] = sign;
+            }
+        }
+
+        /** Makes a whole of parts that are chained. */
+        int makeOf(int kind, int first, int last, int count) {
+            int whole = make(kind, 0);
+            if (whole != NONE) {
+                firsts[whole] = first;
+                lasts[whole] = last;
+                counts[whole] = count;
+            }
+            return whole;
+        }
+
+        private void setValue(int node, int value) {
             if (node >= 0 && node < size) {
                 values[node] = value;
             }
@@ -1474,10 +1505,12 @@ public final class AnswersFirst {
             deepest = 0;
             words = 0;
             greatest = NONE;
+            int first = script.nodes.size;
             int root = readSum(script.nodes, 0);
             if (root == NONE) {
                 return false;
             }
+            script.give(first);
             script.give(root);
             script.give(leaves);
             script.give(deepest);
@@ -1491,8 +1524,8 @@ public final class AnswersFirst {
             if (first == NONE || (tape.sort != SIGN_PLUS && tape.sort != SIGN_MINUS)) {
                 return first;
             }
-            int sum = nodes.make(PLUS, 0);
-            nodes.append(sum, first, 1);
+            int last = first;
+            int terms = 1;
             for (int i = 0; i < MOST_BYTES && (tape.sort == SIGN_PLUS || tape.sort == SIGN_MINUS); i++) {
                 int sign = tape.sort == SIGN_PLUS ? 1 : -1;
                 words |= sign > 0 ? WORD_PLUS : WORD_MINUS;
@@ -1501,9 +1534,11 @@ public final class AnswersFirst {
                 if (term == NONE) {
                     return NONE;
                 }
-                nodes.append(sum, term, sign);
+                nodes.link(last, term, sign);
+                last = term;
+                terms++;
             }
-            return sum;
+            return nodes.makeOf(PLUS, first, last, terms);
         }
 
         private int readProduct(Nodes nodes, int open) {
@@ -1511,8 +1546,8 @@ public final class AnswersFirst {
             if (first == NONE || tape.sort != SIGN_TIMES) {
                 return first;
             }
-            int product = nodes.make(TIMES, 0);
-            nodes.append(product, first, 1);
+            int last = first;
+            int factors = 1;
             words |= WORD_TIMES;
             for (int i = 0; i < MOST_BYTES && tape.sort == SIGN_TIMES; i++) {
                 tape.advance();
@@ -1520,9 +1555,11 @@ public final class AnswersFirst {
                 if (factor == NONE) {
                     return NONE;
                 }
-                nodes.append(product, factor, 1);
+                nodes.link(last, factor, 1);
+                last = factor;
+                factors++;
             }
-            return product;
+            return nodes.makeOf(TIMES, first, last, factors);
         }
 
         private int readOne(Nodes nodes, int open) {
@@ -1584,14 +1621,15 @@ public final class AnswersFirst {
                 return NONE;
             }
             words |= WORD_AGE << place;
+            int one = readSum(nodes, open + 1);
+            int other = ofTwo && one != NONE && expect(SIGN_COMMA) ? readSum(nodes, open + 1) : NONE;
+            if ((ofTwo ? other : one) == NONE || !expect(SIGN_CLOSE)) {
+                return NONE;
+            }
             int word = nodes.make(AGE + place, 0);
-            if (!readPart(nodes, word, open + 1)) {
-                return NONE;
-            }
-            if (ofTwo && !(expect(SIGN_COMMA) && readPart(nodes, word, open + 1))) {
-                return NONE;
-            }
-            return expect(SIGN_CLOSE) ? word : NONE;
+            nodes.append(word, one, 1);
+            nodes.append(word, other, 1);
+            return word;
         }
 
         private int readIf(Nodes nodes, int open) {
@@ -1599,27 +1637,24 @@ public final class AnswersFirst {
                 return NONE;
             }
             words |= WORD_IF;
-            int choice = nodes.make(IF, 0);
-            if (!readPart(nodes, choice, open + 1)) {
+            int one = readSum(nodes, open + 1);
+            int comparison = comparisonOf(tape.sort);
+            if (one == NONE || comparison == NONE) {
+                return one == NONE ? NONE : fail(CANT_STAND);
+            }
+            tape.advance();
+            int other = readSum(nodes, open + 1);
+            int then = other != NONE && expect(SIGN_QUERY) ? readSum(nodes, open + 1) : NONE;
+            int otherwise = then != NONE && expect(SIGN_COLON) ? readSum(nodes, open + 1) : NONE;
+            if (otherwise == NONE || !expect(TOKEN_LAST)) {
                 return NONE;
             }
-            int comparison = comparisonOf(tape.sort);
-            if (comparison == NONE) {
-                return fail(CANT_STAND);
-            }
-            nodes.setValue(choice, comparison);
-            tape.advance();
-            boolean good = readPart(nodes, choice, open + 1)
-                    && expect(SIGN_QUERY) && readPart(nodes, choice, open + 1)
-                    && expect(SIGN_COLON) && readPart(nodes, choice, open + 1)
-                    && expect(TOKEN_LAST);
-            return good ? choice : NONE;
-        }
-
-        private boolean readPart(Nodes nodes, int whole, int open) {
-            int part = readSum(nodes, open);
-            nodes.append(whole, part, 1);
-            return part != NONE;
+            int choice = nodes.make(IF, comparison);
+            nodes.append(choice, one, 1);
+            nodes.append(choice, other, 1);
+            nodes.append(choice, then, 1);
+            nodes.append(choice, otherwise, 1);
+            return choice;
         }
 
         private static int comparisonOf(int sort) {
@@ -1645,6 +1680,7 @@ public final class AnswersFirst {
     /** The questions told, how each is said by the equalities told, and who is alike to whom by it. */
     private static final class Questions {
         private final Nodes[] trees = new Nodes[MOST_QUESTIONS];
+        private final int[] starts = new int[MOST_QUESTIONS];
         private final int[] roots = new int[MOST_QUESTIONS];
         final int[] leaves = new int[MOST_QUESTIONS];
         final int[] depths = new int[MOST_QUESTIONS];
@@ -1673,11 +1709,12 @@ public final class AnswersFirst {
                 return false;
             }
             trees[count] = script.nodes;
-            roots[count] = script.partOf(clause, 0);
-            leaves[count] = script.partOf(clause, 1);
-            depths[count] = script.partOf(clause, 2);
-            words[count] = script.partOf(clause, 3);
-            greatest[count] = script.partOf(clause, 4);
+            starts[count] = script.partOf(clause, 0);
+            roots[count] = script.partOf(clause, 1);
+            leaves[count] = script.partOf(clause, 2);
+            depths[count] = script.partOf(clause, 3);
+            words[count] = script.partOf(clause, 4);
+            greatest[count] = script.partOf(clause, 5);
             count++;
             return true;
         }
@@ -1689,13 +1726,12 @@ public final class AnswersFirst {
 
         int answerIn(int question, World world, int[] things) {
             Nodes tree = trees[question];
-            return tree == null ? 0 : world.workOut(tree, roots[question], things, 0);
+            return tree == null ? 0 : world.workOut(tree, starts[question], roots[question], things);
         }
 
         void workAll(World world) {
             for (int i = 0; i < count; i++) {
-                Nodes tree = trees[i];
-                answers[i] = tree == null ? 0 : world.workOut(tree, roots[i], world.numbers, 0);
+                answers[i] = answerIn(i, world, world.numbers);
             }
         }
 
@@ -1890,6 +1926,9 @@ public final class AnswersFirst {
             int draw = seed * 3 + 7;
             for (int turn = 0; turn < pupils && waiting != 0; turn++) {
                 int pupil = seed == NONE ? youngest(waiting) : drawn(waiting, draw);
+                if (pupil == NONE) {
+                    break;
+                }
                 draw = (draw * 131 + 89) % 30011;
                 waiting &= ~(1 << pupil);
                 int question = lowestNow(pupil, questions);
@@ -1906,6 +1945,9 @@ public final class AnswersFirst {
             int found = NONE;
             for (int turn = 0; turn < pupils && waiting != 0 && found == NONE; turn++) {
                 int pupil = youngest(waiting);
+                if (pupil == NONE) {
+                    break;
+                }
                 waiting &= ~(1 << pupil);
                 int question = lowestNow(pupil, questions);
                 if (question == NONE) {
@@ -2283,6 +2325,8 @@ public final class AnswersFirst {
         private final int[] heardPupils = new int[MOST_HEARD];
         private final int[] heardQuestions = new int[MOST_HEARD];
         int heard;
+        private final int[] unlikeQuestions = new int[MOST_HEARD];
+        private int unlike;
         private final int[] toldQuestions = new int[MOST_TOLD];
         private final int[] toldAnswers = new int[MOST_TOLD];
         int told;
@@ -2352,6 +2396,9 @@ public final class AnswersFirst {
         }
 
         boolean findParting(int one, int other, Questions questions, World world) {
+            if (one == other) {
+                return false;
+            }
             int words = questions.words[one] | questions.words[other];
             Arrays.fill(numbers, 0);
             for (int i = 0; i < MOST_WORLDS; i++) {
@@ -2384,8 +2431,10 @@ public final class AnswersFirst {
                 return foundCount;
             }
             int words = 0;
+            unlike = 0;
             for (int i = 0; i < heard; i++) {
                 words |= questions.words[heardQuestions[i]];
+                addUnlike(heardQuestions[i]);
             }
             Arrays.fill(numbers, 0);
             foundCount = 0;
@@ -2402,13 +2451,26 @@ public final class AnswersFirst {
             return foundCount;
         }
 
+        /** What was heard twice need not be worked out twice. */
+        private void addUnlike(int question) {
+            for (int i = 0; i < unlike; i++) {
+                if (unlikeQuestions[i] == question) {
+                    return;
+                }
+            }
+            if (unlike < MOST_HEARD) {
+                unlikeQuestions[unlike] = question;
+                unlike++;
+            }
+        }
+
         private boolean allAnswerAlike(Questions questions, World world) {
-            if (heard < 2) {
+            if (unlike < 2) {
                 return true;
             }
-            int first = questions.answerIn(heardQuestions[0], world, numbers);
-            for (int i = 1; i < heard; i++) {
-                if (questions.answerIn(heardQuestions[i], world, numbers) != first) {
+            int first = questions.answerIn(unlikeQuestions[0], world, numbers);
+            for (int i = 1; i < unlike; i++) {
+                if (questions.answerIn(unlikeQuestions[i], world, numbers) != first) {
                     return false;
                 }
             }
