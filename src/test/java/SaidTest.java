@@ -165,6 +165,14 @@ public final class SaidTest {
         by(128, "more(2,3)", "3");
         by(128, "less(2,3)", "2");
         by(128, "99*99*99*99*99", "99*99*99*99*98");
+        // as deep as sixteen leaves go: what differs is at the bottom
+        String one = "p+q";
+        String other = "q+p";
+        for (int i = 0; i < 7; i++) {
+            one = "2+3*age(" + one + ")";
+            other = "2+3*age(" + other + ")";
+        }
+        by(1, one, other);
     }
 
     private static void together() {
