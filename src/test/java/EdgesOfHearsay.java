@@ -391,6 +391,26 @@ final class EdgesOfHearsay extends Edge {
         x.end(0);
         same("all is so again", state(x), before);
 
+        // what rests on people and roads that are gone
+        x = Check.of("ask kids(0);ask kin(0,1);ask way(0,2);ask p;born 1;born 2;path 0 to 1 long 5;" + KNOWING);
+        x.image();
+        x.person(1, 0, 1);
+        x.road(1, 2, 5);
+        x.road(0, 1, 1);
+        x.hear(0, 3);
+        x.hear(0, 1);
+        due("kids(0), kin(0, 1), way(0, 2)", x.of(0, 0) * 100 + x.of(1, 0) * 10 + x.of(2, 0), 126);
+        due("p is 2", x.worlds(0), 2000);
+        x.back();
+        due("kids(0)", x.of(0, 0), 0);
+        due("kin(0, 1)", x.kin(0, 1), -1);
+        due("way(0, 2)", x.way(0, 2), -1);
+        due("way(0, 1)", x.way(0, 1), 5);
+        due("worlds(0)", x.worlds(0), 0);
+        x.hear(0, 3);
+        x.hear(0, 1);
+        due("p is -1", x.worlds(-1), 0);
+
         by(45, "BACK to THE IMAGE (it stays): how many have asked.");
         x = much();
         due("back() to the new object", x.back(), 0);

@@ -705,6 +705,19 @@ final class EdgesOfTexts extends Edge {
         due("played(0)", x.played(0), -1);
         due("about(4)", x.about(4), 255);
 
+        // however often one has a fault, nothing of it is kept
+        String longest = times("ask p+1+p+1+p+1+p+1+p+1+p+1+p+1+p+1;", 8);
+        for (int i = 0; i < 12; i++) {
+            Check.type(x, longest + "ask");
+            due("a long one", x.text(), -1);
+            due("its place", x.fault(1), longest.length() + 3);
+        }
+        Check.type(x, longest);
+        due("without a fault", x.text(), 1);
+        due("played(1)", x.played(1), -1);
+        due("of(7, 1)", x.of(7, 1), 16);
+        due("of(7, 0)", x.of(7, 0), 8);
+
         by(9, "or (the tape stays) there are 4.");
         x = new AnswersFirst();
         for (int i = 0; i < 3; i++) {
