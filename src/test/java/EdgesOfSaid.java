@@ -458,6 +458,12 @@ final class EdgesOfSaid extends Edge {
         due("nearly(0, 1)", x.nearly(0, 1), 1);
         due("nearly(0, 2)", x.nearly(0, 2), 0);
         due("nearly(0, 0)", x.nearly(0, 0), 0);
+        AnswersFirst longest = Check.of("ask p" + times("+p", 15) + ";ask p+q" + times("+p", 14) + ";ask q" + times("+p", 15)
+                + ";");
+        for (int i = 0; i < 60; i++) {
+            due("nearly(0, 1), time " + i, longest.nearly(0, 1), 0);
+            due("nearly(1, 2), time " + i, longest.nearly(1, 2), 1);
+        }
         x.equalities(254);
         due("nearly(0, 1) by 254", x.nearly(0, 1), 1);
         due("nearly(3, 4) by 254", x.nearly(3, 4), 0);

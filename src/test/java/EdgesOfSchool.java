@@ -533,6 +533,16 @@ final class EdgesOfSchool extends Edge {
         order(Check.of("ask 0;ask p;" + KNOWING + plain(5) + plain(4)), 2);
         order(Check.of("ask 0;ask p;say 1;ask p+q;ask q+p;" + times(KNOWING, 4)), 3);
         order(Check.of("answer 9;ask 0;" + KNOWING), 0);
+        AnswersFirst less = Check.of(SIX + times(KNOWING, 6));
+        due("six", less.order(-1), 6);
+        less.equalities(4);
+        due("fewer are unlike now: 0 * 0, 0 * 0 * 0 and 0", less.order(-1), 3);
+        less.answer(1);
+        due("none comes to the answer now", less.order(-1), 0);
+        due("all are to be shut", less.shut(), 63);
+        less.answer(0);
+        due("three again", less.order(-1), 3);
+        due("three are to be shut", less.shut(), 7);
         order(Check.of("ask 0;ask p;ask q;ask r;ask s;" + times(KNOWING, 6)), 5);
 
         by(28, "ORDER: the i-th PUPIL; i NONE: MOST.");
@@ -584,6 +594,35 @@ final class EdgesOfSchool extends Edge {
         due("game(" + begins + ", " + other + ", true)", x.game(begins, other, true), first);
     }
 
+    /** By the words p and q each has some questions that the other one can't ask. */
+    private static void alone(int ones, int others, int both) {
+        StringBuilder text = new StringBuilder();
+        for (int i = 0; i < 3; i++) {
+            text.append(i < ones ? "ask p" + times("+p", i) + ";" : "");
+            text.append(i < others ? "ask q" + times("+q", i) + ";" : "");
+            text.append(i < both ? "ask 0" + times("+0", i) + ";" : "");
+        }
+        AnswersFirst x = Check.of(text + pupil(5, 1 + 16, 0, 0, 16) + pupil(5, 2 + 16, 0, 0, 16));
+        for (int begins = 0; begins < 2; begins++) {
+            int mine = begins == 0 ? ones : others;
+            int yours = begins == 0 ? others : ones;
+            int first = -1;
+            for (int q = x.about(0) - 1; q >= 0; q--) {
+                boolean his = x.can(begins, q);
+                boolean shared = his && x.can(1 - begins, q);
+                if (his && !wins(yours, mine - (shared ? 0 : 1), both - (shared ? 1 : 0))) {
+                    first = q;
+                }
+            }
+            game(x, begins, 1 - begins, first < 0 ? 1 - begins : begins, first);
+            due("who begins with " + mine + ", " + yours + ", " + both, first >= 0, wins(mine, yours, both));
+        }
+    }
+
+    private static boolean wins(int mine, int yours, int both) {
+        return mine > 0 && !wins(yours, mine - 1, both) || both > 0 && !wins(yours, mine, both - 1);
+    }
+
     private static void games() {
         by(0, "A GAME of two unlike PUPILS: by turns each asks any QUESTION that one CAN ask, that comes to THE ANSWER and "
                 + "isn't ALIKE to one that was ASKED in it (or it); who can't loses: who wins, if a told one begins;");
@@ -597,6 +636,10 @@ final class EdgesOfSchool extends Edge {
             int count = Math.max(0, questions - 1);
             game(x, 0, 1, count % 2 == 1 ? 0 : 1, count % 2 == 1 ? 1 : -1);
             game(x, 1, 0, count % 2 == 1 ? 1 : 0, count % 2 == 1 ? 1 : -1);
+        }
+        // so many are the one's alone, the other's alone, both's
+        for (int i = 0; i < 36; i++) {
+            alone(i % 3, i / 3 % 3, i / 9);
         }
         AnswersFirst x = Check.of("ask p+q;ask q+p;" + KNOWING + KNOWING);
         game(x, 0, 1, 1, -1);

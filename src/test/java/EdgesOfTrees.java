@@ -80,6 +80,14 @@ final class EdgesOfTrees extends Edge {
         due("7 is gone", x.kinds(2, 0, 57), 0);
         due("8 * 50, 50 * 8", x.kinds(2, 0, 400), 2);
 
+        x = things(0, 50, 10, 99);
+        due("500", x.kinds(2, 0, 500), 2);
+        due("-500", x.kinds(3, 0, -500), 6);
+        x.thing(1, 51);
+        due("500 is gone", x.kinds(2, 0, 500), 0);
+        due("-500 is gone", x.kinds(3, 0, -500), 0);
+        due("510 isn't there", x.kinds(2, 0, 499) + x.kinds(2, 0, 500), 0);
+
         by(0, "no part's value is above 500 or below -500;");
         x = things(50, 10, 0, 1);
         due("500", x.kinds(2, 0, 500), 2);
@@ -210,6 +218,7 @@ final class EdgesOfTrees extends Edge {
         // 10 * (21 + 21), 21 * 21 - 21; then but 21 * 21 - 10
         written(things(21, 10, 25, 13), 0, 420, TIMES, Q, PLUS, P, P);
         written(things(21, 10, 25, 13), 0, 431, MINUS, TIMES, P, P, Q);
+        written(things(50, 10, 1, 1), 0, 499, MINUS, TIMES, Q, P, R);
         // 7 + (7 - 6), 50 - 7 * 6, 7 + 7 - 6
         written(things(7, 6, 50, 40), 0, 8, PLUS, P, MINUS, P, Q);
 
