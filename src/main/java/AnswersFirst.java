@@ -2210,7 +2210,8 @@ public final class AnswersFirst {
         }
 
         int countOf(int m, int n, int v) {
-            return v >= -WIDEST && v <= WIDEST ? counts[placeOf(m, n, v)] : 0;
+            boolean told = within(m, 0, GREATEST_M) && within(n, 1, TREE_LEAVES) && within(v, -WIDEST, WIDEST);
+            return told ? counts[placeOf(m, n, v)] : 0;
         }
 
         int fewestLeaves(int m, int v, int most, int[] numbers) {
@@ -2262,6 +2263,9 @@ public final class AnswersFirst {
 
         /** Writes the first tree of n leaves that has a value: the place behind it. */
         private int write(int m, int n, int v, int at) {
+            if (n > TREE_LEAVES) {
+                return at;
+            }
             if (n <= 1) {
                 put(at, leafOf(m, v));
                 return at + 1;
